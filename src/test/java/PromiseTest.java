@@ -27,6 +27,7 @@ public final class PromiseTest {
         doorsByBuilding();
         doorsBySteps();
         corners();
+        cornersByBuilding();
         merging();
         removing();
         renumbering();
@@ -365,6 +366,19 @@ public final class PromiseTest {
         town.door(1, 15, 'l');
         town.door(0, 0, 'r');
         Check.refused("a corner without a letter left", town, UNSUPPORTED, () -> town.corner(15, 1, 15, 'l'));
+    }
+
+    private static void cornersByBuilding() {
+        StreetNamer town = new StreetNamer();
+        Check.street(town, "a", 999, 'y', false);
+        Check.street(town, "b", 999, 'y', true);
+        town.door(0, 999, 'l');
+        town.door(1, 0, 'l');
+        Check.due("corner by building", town.corner(0, 1, 999, 'r'), 20);
+        Check.due("left goes first, up to the last metre", town.walk(1, 0), 1);
+        Check.due("right goes then, from the last metre on", town.walk(1, 1), 0);
+        town.remove(0);
+        Check.due("the number of a corner that is gone counts", added(town, 1, 5, 'l'), 30);
     }
 
     private static void merging() {
@@ -789,16 +803,20 @@ public final class PromiseTest {
         town.door(0, 90, 'l');
         town.door(0, 50, 'l');
         town.door(0, 10, 'l');
-        Check.due("all three pairs", town.clashes(0), 3);
+        Check.due("all three pairs, the first door's two among them", town.clashes(0), 3);
+        town.remove(1);
+        Check.due("the first door's pair", town.clashes(0), 1);
+        town.door(0, 50, 'l');
+        Check.due("4 behind 3 is no clash, but behind them is 1", town.clashes(0), 2);
         town.door(0, 0, 'r');
-        Check.due("the other side aside", town.clashes(0), 3);
+        Check.due("the other side aside", town.clashes(0), 2);
         town.door(0, 10, 'l');
-        Check.due("at the same metre by numbers", town.clashes(0), 5);
+        Check.due("at the same metre by numbers", town.clashes(0), 2 + 2);
         town.way(0, 'y', true);
-        Check.due("from the other end", town.clashes(0), 0);
+        Check.due("from the other end", town.clashes(0), 1);
         town.way(0, 'm', false);
         town.door(0, 0, 'r');
-        Check.due("the right side", town.clashes(0), 5 + 1);
+        Check.due("the right side", town.clashes(0), 4 + 1);
         town.way(0, 's', false);
         town.renumber(0);
         Check.due("renumbered", town.clashes(0), 0);
