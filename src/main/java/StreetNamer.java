@@ -22,6 +22,9 @@ public final class StreetNamer {
     /** More than there can be doors, so that a key orders by metres first and by door numbers then. */
     private static final int KEY_STEP = 64;
 
+    /** Farther on than any door can be. */
+    private static final int BEYOND_ALL = (LONGEST + 1) * KEY_STEP;
+
     /** More than twice the longest street, so that the right side, backward, comes behind the left one. */
     private static final int TURN = 2 * LONGEST + 1;
 
@@ -949,7 +952,7 @@ public final class StreetNamer {
         /** Answers the number of the next door of a side that is farther on, NONE without such a one. */
         private int numberAfter(int key, boolean isLeft) {
             int number = NONE;
-            int nearest = Integer.MAX_VALUE;
+            int nearest = BEYOND_ALL;
             for (int i = 0; i < MOST_DOORS; i++) {
                 if (codes[i] != NONE && lefts[i] == isLeft && keys[i] > key && keys[i] < nearest) {
                     nearest = keys[i];

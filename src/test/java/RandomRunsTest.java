@@ -10,6 +10,7 @@ import java.util.TreeMap;
 
 /** Long runs of calls, the same for StreetNamer and for PlainTown, that must answer alike. */
 public final class RandomRunsTest {
+    private static final int RUNS = 800;
     private static final int CALLS = 512;
     private static final int[] ODD_ONES = {-1, -2, 12, 40, 41, 1000, Integer.MIN_VALUE, Integer.MAX_VALUE};
     private static final Map<String, Integer> OUTCOMES = new TreeMap<>();
@@ -27,8 +28,7 @@ public final class RandomRunsTest {
     }
 
     public static void main(String[] args) throws ReflectiveOperationException {
-        int runs = args.length > 0 ? Integer.parseInt(args[0]) : 800;
-        for (long seed = 0; seed < runs; seed++) {
+        for (long seed = 0; seed < RUNS; seed++) {
             RandomRunsTest run = new RandomRunsTest(seed);
             String wrong = run.go();
             Check.due("run " + seed, wrong, "");
