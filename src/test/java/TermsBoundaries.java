@@ -400,6 +400,8 @@ final class TermsBoundaries extends Boundary {
         taken("there is one", all(road, door(0, 50, 'l')), t -> comes(t, 0, 51, 'l'), 30);
         taken("there is one as far, with a lower number", all(road, door(0, 50, 'l')), t -> comes(t, 0, 50, 'l'), 30);
         taken("there is one at metre 0, the first door of all", all(road, door(0, 0, 'l')), t -> comes(t, 0, 1, 'l'), 30);
+        taken("there is one at metre 0, the first door of all, with the number 19",
+                all(street("a", 99, 'm', true), door(0, 0, 'l'), way(0, 's', false)), t -> comes(t, 0, 1, 'l'), 210);
         taken("there is one at metre 0, as far", all(road, door(0, 0, 'l')), t -> comes(t, 0, 0, 'l'), 30);
         taken("there is one at the other end, going back", all(street("a", 99, 's', true), door(0, 99, 'l')),
                 t -> comes(t, 0, 98, 'l'), 30);
@@ -423,6 +425,9 @@ final class TermsBoundaries extends Boundary {
         taken("none and 5: 1, the least", all(three, gone(0, 1)), t -> comes(t, 0, 5, 'l'), 10);
         taken("none and 1: none", three, t -> comes(t, 0, 5, 'l'), 11);
         taken("5 and none: 7", three, t -> comes(t, 0, 30, 'l'), 70);
+        taken("the next one at the last metre that there can be", all(street("c", 999, 's', false), door(0, 999, 'l')),
+                t -> comes(t, 0, 998, 'l'), 11);
+        taken("the next one at metre 0, going back", all(street("c", 999, 's', true), door(0, 0, 'l')), t -> comes(t, 0, 1, 'l'), 11);
         taken("the next one, not the last of all", all(three, gone(1), door(0, 20, 'l')), t -> comes(t, 0, 15, 'l'), 11);
         taken("the other side does not matter", all(road, door(0, 10, 'r'), door(0, 20, 'r')), t -> comes(t, 0, 5, 'l'), 10);
         Given right = all(road, door(0, 10, 'r'), door(0, 20, 'r'), door(0, 30, 'r'));
