@@ -1,12 +1,17 @@
+import java.io.IOException;
 import java.lang.reflect.InvocationTargetException;
 import java.lang.reflect.Method;
 import java.lang.reflect.Modifier;
+import java.nio.file.Files;
+import java.nio.file.Path;
 import java.util.ArrayList;
 import java.util.Arrays;
 import java.util.List;
 import java.util.Map;
 import java.util.Random;
+import java.util.Set;
 import java.util.TreeMap;
+import java.util.TreeSet;
 
 /** Long runs of calls, the same for StreetNamer and for PlainTown, that must answer alike. */
 public final class RandomRunsTest {
@@ -14,6 +19,7 @@ public final class RandomRunsTest {
     private static final int CALLS = 512;
     private static final int[] ODD_ONES = {-1, -2, 12, 40, 41, 1000, Integer.MIN_VALUE, Integer.MAX_VALUE};
     private static final Map<String, Integer> OUTCOMES = new TreeMap<>();
+    private static final Set<String> WHYS = new TreeSet<>();
 
     private final Random random;
     private final int profile;
@@ -27,13 +33,14 @@ public final class RandomRunsTest {
         profile = (int) (seed % 4);
     }
 
-    public static void main(String[] args) throws ReflectiveOperationException {
+    public static void main(String[] args) throws ReflectiveOperationException, IOException {
         for (long seed = 0; seed < RUNS; seed++) {
             RandomRunsTest run = new RandomRunsTest(seed);
             String wrong = run.go();
             Check.due("run " + seed, wrong, "");
         }
         dueToHappen();
+        areWritten(Files.readString(Path.of("src/main/java/StreetNamer.java")));
         Check.end("RandomRunsTest");
     }
 
@@ -49,6 +56,13 @@ public final class RandomRunsTest {
                 String outcome = method.getName() + " throws " + kind.getSimpleName();
                 Check.due(outcome + " in some run", OUTCOMES.containsKey(outcome), true);
             }
+        }
+    }
+
+    /** What the machine throws bears a text of its own, or none. */
+    private static void areWritten(String source) {
+        for (String why : WHYS) {
+            Check.due("the program throws with \"" + why + '"', source.contains("Exception(\"" + why + "\")"), true);
         }
     }
 
@@ -124,6 +138,9 @@ public final class RandomRunsTest {
                 try {
                     return method.invoke(object, args);
                 } catch (InvocationTargetException e) {
+                    if (object instanceof StreetNamer) {
+                        WHYS.add(String.valueOf(e.getCause().getMessage()));
+                    }
                     return "throws " + e.getCause().getClass().getSimpleName();
                 }
             }
