@@ -45,8 +45,8 @@ public final class LanguageTest {
                     Check.due("rules broken by " + members, faults(file).toString(), "[" + rule.getKey() + "]");
                 }
             }
-            Files.deleteIfExists(place.resolve("Broken.java"));
         } finally {
+            Files.deleteIfExists(place.resolve("Broken.java"));
             Files.delete(place);
         }
     }
