@@ -1,10 +1,13 @@
 import java.util.List;
 import java.util.Map;
 
-/** Members of a class that break a rule of LANGUAGE.md each, by the number of the rule. */
+/** Members of a class, or lines ahead of it, that break a rule of LANGUAGE.md each, by the number of the rule. */
 final class BrokenRules {
     static final Map<String, List<String>> ALL = Map.ofEntries(
-            Map.entry("1", List.of("private class Inside { }")),
+            Map.entry("1", List.of(
+                    "private class Inside { }",
+                    "} final class Beside {",
+                    "package town;")),
             Map.entry("2", List.of(
                     "private interface Call { int of(); } private static Call made() { return () -> 1; }",
                     "private interface Call { Broken of(); } private static Call made() { return Broken::new; }",
@@ -19,6 +22,8 @@ final class BrokenRules {
                     "private static int great() { return Integer.MAX_VALUE; }",
                     "private static int sum(int a) { return Math.addExact(a, 1); }",
                     "private static long now() { return System.nanoTime(); }",
+                    "import java.util.Random;",
+                    "import static java.util.Arrays.fill;",
                     "private static String told(int a) { return String.valueOf(a); }",
                     "private static String told() { return \"a\".trim(); }")),
             Map.entry("5", List.of(
@@ -34,6 +39,7 @@ final class BrokenRules {
                     "private static void no() { try { } finally { } }",
                     "private static void no(int[] a) { try { a[0] = 1; } catch (ArrayIndexOutOfBoundsException e) { } }",
                     "private static void no(Object a) { synchronized (a) { } }",
+                    "private static synchronized void no() { }",
                     "private static void no(int a) { assert a > 0; }",
                     "private static boolean no(String a, String b) { return a == b; }",
                     "private static void no() { new IllegalStateException(); }",
@@ -68,8 +74,10 @@ final class BrokenRules {
     private BrokenRules() {
     }
 
-    static String classOf(String members) {
-        return "public final class Broken {\n    public Broken() { }\n    " + members + "\n}\n";
+    static String classOf(String broken) {
+        boolean isHead = broken.startsWith("import ") || broken.startsWith("package ");
+        return (isHead ? broken : "") + "\npublic final class Broken {\n    public Broken() { }\n    "
+                + (isHead ? "" : broken) + "\n}\n";
     }
 
     private static String nests(int count) {

@@ -39,10 +39,10 @@ public final class LanguageTest {
         Path place = Files.createTempDirectory("language");
         try {
             for (Map.Entry<String, List<String>> rule : BrokenRules.ALL.entrySet()) {
-                for (String members : rule.getValue()) {
+                for (String broken : rule.getValue()) {
                     Path file = place.resolve("Broken.java");
-                    Files.writeString(file, BrokenRules.classOf(members));
-                    Check.due("rules broken by " + members, faults(file).toString(), "[" + rule.getKey() + "]");
+                    Files.writeString(file, BrokenRules.classOf(broken));
+                    Check.due("rules broken by " + broken, faults(file).toString(), "[" + rule.getKey() + "]");
                 }
             }
         } finally {
